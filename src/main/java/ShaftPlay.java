@@ -8,7 +8,8 @@ import java.util.Arrays;
 public final class ShaftPlay {
     public static final int BAD = -1, NOT = -2, FULL = -3, NONE = -4, NULL = -11, CAST = -12, INDEX = -13, SIZE = -14;
 
-    private static final int ANGLES = 12, ALL_ANGLES = 4095, MOST_TURNED = 600, MOST_PASSED = 1000000000;
+    private static final int ANGLES = 12, ALL_ANGLES = 4095, LAG_0_ALONE = 1;
+    private static final int MOST_TURNED = 600, MOST_PASSED = 1000000000;
     private static final int CAMS = 6, GREATEST_HAIR = 9, WEARING_FALL = 2, MOST_TURNS = 9;
     private static final int FIGURES = 5, PLACES = 4, GREATEST_LINE = 9;
     private static final int KINDS = 4, DOUBLED = 1, SLOW = 2, LIVING = 3;
@@ -457,7 +458,6 @@ public final class ShaftPlay {
         return fault;
     }
 
-    /** A set of how far hairs of two angles one behind the other are apart. */
     private static int stepsIn(int[] hairs) {
         int steps = 0;
         for (int angle = 0; angle < ANGLES; angle++) {
@@ -511,15 +511,14 @@ public final class ShaftPlay {
 
     /** Finds the first sharing of the fewest cams: how many these are. */
     private int shareCams() {
+        sharing.compare(now.figures, now.figureCount);
         for (int most = 0; most < now.figureCount; most++) {
-            sharing.clear();
-            if (isSeated(sharing, now, 0, 0, most)) {
+            if (isSeated(sharing, now.figureCount, 0, 0, most)) {
                 return most;
             }
         }
         // With a cam for each figure there is always a place left.
-        sharing.clear();
-        isSeated(sharing, now, 0, 0, now.figureCount);
+        isSeated(sharing, now.figureCount, 0, 0, now.figureCount);
         return now.figureCount;
     }
 
@@ -527,22 +526,19 @@ public final class ShaftPlay {
      * Puts a figure and all behind it on cams, most of them at the most; the first way that goes
      * is the first row, as cams and lags are tried in their order.
      */
-    private static boolean isSeated(Sharing sharing, Play play, int figure, int cams, int most) {
-        if (figure >= play.figureCount || figure >= FIGURES) {
+    private static boolean isSeated(Sharing sharing, int figures, int figure, int cams, int most) {
+        if (figure >= figures || figure >= FIGURES) {
             return true;
         }
-        Figure f = play.figures[figure];
-        for (int cam = 0; cam <= cams && cam < most && cam < FIGURES; cam++) {
-            int lags = cam < cams ? ANGLES : 1;
-            int up = sharing.up[cam];
-            int down = sharing.down[cam];
-            for (int lag = 0; lag < lags; lag++) {
-                if (sharing.hang(f, figure, cam, lag)) {
-                    if (isSeated(sharing, play, figure + 1, Math.max(cams, cam + 1), most)) {
+        for (int cam = 0; cam <= cams && cam < most; cam++) {
+            int lags = cam < cams ? sharing.lagsOn(cam, figure) : LAG_0_ALONE;
+            for (int lag = 0; lag < ANGLES; lag++) {
+                if ((lags >> lag & 1) == 1) {
+                    sharing.cam[figure] = cam;
+                    sharing.lag[figure] = lag;
+                    if (isSeated(sharing, figures, figure + 1, Math.max(cams, cam + 1), most)) {
                         return true;
                     }
-                    sharing.up[cam] = up;
-                    sharing.down[cam] = down;
                 }
             }
         }
@@ -869,37 +865,47 @@ public final class ShaftPlay {
         }
     }
 
-    /** Figures on new cams, each by a lag, and what each cam is asked for: two sets of its angles. */
+    /** Figures on new cams, each by a lag. */
     private static final class Sharing {
         final int[] cam;
         final int[] lag;
-        final int[] up;
-        final int[] down;
+        /** By an earlier figure, put on a cam by lag 0, and a later one: the later one's lags that go with it. */
+        final int[][] lagsTogether;
 
         Sharing() {
             cam = new int[FIGURES];
             lag = new int[FIGURES];
-            up = new int[FIGURES];
-            down = new int[FIGURES];
+            lagsTogether = new int[FIGURES][FIGURES];
         }
 
-        void clear() {
-            Arrays.fill(up, 0);
-            Arrays.fill(down, 0);
-        }
-
-        /** False, and nothing is changed, if the wishes do not go together. */
-        boolean hang(Figure f, int figure, int onCam, int byLag) {
-            int asksUp = movedOn(f.wishedUp, byLag);
-            int asksDown = movedOn(f.wishedDown, byLag);
-            if ((asksUp & down[onCam] | asksDown & up[onCam]) != 0) {
-                return false;
+        void compare(Figure[] figures, int count) {
+            for (int later = 0; later < count; later++) {
+                for (int earlier = 0; earlier < later; earlier++) {
+                    lagsTogether[earlier][later] = lagsOf(figures[earlier], figures[later]);
+                }
             }
-            up[onCam] |= asksUp;
-            down[onCam] |= asksDown;
-            cam[figure] = onCam;
-            lag[figure] = byLag;
-            return true;
+        }
+
+        static int lagsOf(Figure earlier, Figure later) {
+            int lags = 0;
+            for (int byLag = 0; byLag < ANGLES; byLag++) {
+                int up = movedOn(later.wishedUp, byLag);
+                int down = movedOn(later.wishedDown, byLag);
+                if ((earlier.wishedUp & down | earlier.wishedDown & up) == 0) {
+                    lags |= 1 << byLag;
+                }
+            }
+            return lags;
+        }
+
+        int lagsOn(int onCam, int figure) {
+            int lags = ALL_ANGLES;
+            for (int earlier = 0; earlier < figure; earlier++) {
+                if (cam[earlier] == onCam) {
+                    lags &= movedOn(lagsTogether[earlier][figure], lag[earlier]);
+                }
+            }
+            return lags;
         }
     }
 

@@ -123,7 +123,19 @@ public final class BeatsAndHandsTest {
         Due.is("steps 0 and 1", x.whose(1), 3);
         x.hand(3, 1);
         Due.is("not all steps", x.whose(1), 3);
-        for (int cam : new int[] {Integer.MIN_VALUE, -1, 3, 6, Integer.MAX_VALUE}) {
+        x.hand(2, 512);
+        Due.cam(x, "090909090909");
+        Due.is("step 9 alone", x.whose(3), 6);
+        x.cut(3, 0, 8);
+        Due.is("steps 1 beside it", x.whose(3), 2);
+        x.cut(3, 0, 7);
+        Due.is("steps 2 beside it", x.whose(3), 0);
+        Due.cam(x, "123456788885");
+        x.hand(0, 19);
+        Due.is("step 4 from 11 to 0, step 3 from 10 to 11", x.whose(4), 0);
+        x.hand(0, 27);
+        Due.is("all of them", x.whose(4), 1);
+        for (int cam : new int[] {Integer.MIN_VALUE, -1, 5, 6, Integer.MAX_VALUE}) {
             Due.is("whose " + cam, x.whose(cam), ShaftPlay.BAD);
         }
     }
@@ -173,6 +185,16 @@ public final class BeatsAndHandsTest {
         Due.is("figures", x.count(1), 1);
         Due.is("height", x.height(0, 8), 18);
         Due.is("wish", x.missed(0), 0);
+        x.cut(1, 11, 0);
+        Due.wish(x, 0, "............");
+        Due.wish(x, 0, ".......ud...");
+        x.image();
+        Due.wish(x, 0, "............");
+        x.restore();
+        Due.is("wish to be up", x.missed(0), 7);
+        x.cut(1, 10, 9);
+        x.cut(1, 11, 9);
+        Due.is("wish not to be up", x.missed(0), 8);
         Due.is("kind", x.set(0, 0, 0), 1);
         Due.is("cam", x.set(0, 1, 0), 1);
         Due.is("lag", x.set(0, 2, 0), 3);

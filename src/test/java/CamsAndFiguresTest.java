@@ -312,6 +312,10 @@ public final class CamsAndFiguresTest {
         Due.is("way", x.count(3), 1);
         Due.is("passed either way", x.count(4), 604);
         Due.is("none up", x.count(5), 0);
+        x.cut(0, 10, 5);
+        Due.is("up on the line itself", x.count(5), 1);
+        x.cut(0, 10, 4);
+        Due.is("not below it", x.count(5), 0);
         for (int v : OUTSIDE) {
             Due.is("count " + v, x.count(v), ShaftPlay.BAD);
         }

@@ -51,7 +51,8 @@ public final class OracleTest {
     /** A text comes whole and mostly well, else cams and wishes would be rare. */
     private int typed() {
         boolean isWish = random.nextInt(2) == 0 && o.s.figures.size() > 0;
-        String signs = isWish ? random.nextInt(2) == 0 ? "ud." : random.nextInt(2) == 0 ? "u........." : "ddddddddu" : "0123456789";
+        String[] wishes = {"ud.", "ud.", "u.........", "ddddddddu"};
+        String signs = isWish ? wishes[random.nextInt(4)] : "0123456789";
         StringBuilder text = new StringBuilder();
         int length = random.nextInt(6) == 0 ? random.nextInt(20) : 12;
         String strange = "/:uUdD.-019 ~";

@@ -122,6 +122,13 @@ public final class PlayTest {
         x.set(4, 2, 1);
         Due.is("six pairs", x.turn(25), 12);
         Due.is("at 1", x.count(2), 1);
+        x = Due.withCams("909090000000");
+        x.figure(0, 0, 0, 0);
+        x.figure(0, 0, 0, 0);
+        Due.is("strikes at 2 and at 4", x.turn(4), 2);
+        Due.is("strikes at 0 and at 2", x.turn(10), 2);
+        x.turn(1);
+        Due.is("strikes at 4 and at 0", x.turn(10), 2);
     }
 
     // Promise 15
@@ -164,6 +171,10 @@ public final class PlayTest {
             Due.is("wear " + n, x.wear(n), ShaftPlay.BAD);
         }
         Due.is("no cams", new ShaftPlay().wear(9), 0);
+        x = Due.withCams("500000000000", "500000000000", "500000000000", "500000000000", "500000000000",
+            "500000000000");
+        Due.is("six cams", x.wear(2), 6);
+        Due.hairsAre("the last cam", x, 5, "300000000000");
     }
 
     private static void wearingAllAtOnce() {
@@ -242,7 +253,16 @@ public final class PlayTest {
         sharesAre("asked behind itself", withWishes("uddd........", "dddddddddddu"), 0, 0, 0, 1);
         sharesAre("an earlier choice gives way", withWishes("u...........", "d...........", "uuuuuuuuuuud"),
             0, 0, 0, 1, 0, 2);
-        sharesAre("a first lag gives way", withWishes("uuuu........", "............", "dduuuuuuuu.."), 0, 0, 0, 0, 0, 4);
+        sharesAre("a first lag gives way", withWishes("uuuu........", "............", "dduuuuuuuu.."),
+            0, 0, 0, 0, 0, 4);
+        sharesAre("a cam for each", withWishes("dddddddddddd", "uddddddddddd", "uudddddddddd", "uuuddddddddd",
+            "uuuudddddddd"), 0, 0, 1, 0, 2, 0, 3, 0, 4, 0);
+        x = withWishes("uuuuuuuuuuuu", "dddddddddddd", "uuuuuuuuuuuu", "dddddddddddd");
+        sharesAre("two cams in turns", x, 0, 0, 1, 0, 0, 0, 1, 0);
+        Due.wish(x, 0, "dddddddddddd");
+        Due.wish(x, 1, "uuuuuuuuuuuu");
+        sharesAre("nothing stays of an earlier sharing", x, 0, 0, 1, 0, 1, 0, 0, 0);
+        Due.is("of three figures", withWishes("uu..........", "dd..........", "uuu.........").fewest(), 1);
         Due.is("what 2", x.share(0, 2), ShaftPlay.BAD);
         Due.is("what -1", x.share(0, -1), ShaftPlay.BAD);
         Due.is("no figure", x.share(4, 0), ShaftPlay.BAD);
