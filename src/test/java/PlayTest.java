@@ -307,6 +307,8 @@ public final class PlayTest {
         pegsAre("4 is the line", x, 0, 0);
         x.set(0, 1, 0);
         pegsAre("another cam", x, 1, 0);
+        Due.wish(x, 0, "uuuuuuuuuuuu");
+        pegsAre("all twelve", x, 12, 0);
     }
 
     private static void noFigures() {
