@@ -1,20 +1,10 @@
 /** Promises 21 to 27. */
 public final class BeatsAndHandsTest {
-    public static void main(String[] args) {
-        beats();
-        when();
-        at();
-        atLongAfter();
-        hands();
-        whose();
-        image();
-        imageOfFigures();
-        imageLeavesTapeAndSheets();
-        Due.end("BeatsAndHandsTest");
+    public static void main(String[] args) throws IllegalAccessException {
+        Cases.run(BeatsAndHandsTest.class);
     }
 
-    // Promise 21
-    private static void beats() {
+    static void promise21_beats() {
         ShaftPlay x = new ShaftPlay();
         Due.is("one at first", x.beats(0, 99), 1);
         Due.is("99", x.beats(0, 1), 99);
@@ -29,8 +19,7 @@ public final class BeatsAndHandsTest {
         Due.is("it stays", x.beats(11, 3), 3);
     }
 
-    // Promise 22
-    private static void when() {
+    static void promise22_when() {
         ShaftPlay x = new ShaftPlay();
         x.beats(0, 5);
         x.beats(11, 7);
@@ -53,8 +42,7 @@ public final class BeatsAndHandsTest {
         }
     }
 
-    // Promise 23
-    private static void at() {
+    static void promise23_at() {
         ShaftPlay x = new ShaftPlay();
         x.beats(0, 5);
         x.beats(1, 2);
@@ -80,7 +68,7 @@ public final class BeatsAndHandsTest {
         Due.is("nothing goes on", x.count(2) * 10 + x.count(4), 111);
     }
 
-    private static void atLongAfter() {
+    static void promise23_atLongAfter() {
         ShaftPlay x = new ShaftPlay();
         Due.is("99999 of single beats", x.at(99999), 3);
         for (int angle = 0; angle < 12; angle++) {
@@ -91,8 +79,7 @@ public final class BeatsAndHandsTest {
         Due.is("1187", x.at(1187), 11);
     }
 
-    // Promise 24
-    private static void hands() {
+    static void promise24_hands() {
         ShaftPlay x = new ShaftPlay();
         for (int hand = 0; hand < 4; hand++) {
             Due.is("all at first", x.hand(hand, hand), 1023);
@@ -108,8 +95,7 @@ public final class BeatsAndHandsTest {
         Due.is("no step", x.hand(3, 0), 0);
     }
 
-    // Promise 25
-    private static void whose() {
+    static void promise25_whose() {
         ShaftPlay x = Due.withCams("012345678999", "444444444444", "900000000000");
         Due.is("all hands at first", x.whose(0), 15);
         x.hand(0, 3);
@@ -140,8 +126,7 @@ public final class BeatsAndHandsTest {
         }
     }
 
-    // Promises 26 and 27
-    private static void image() {
+    static void promise26_image() {
         ShaftPlay x = Due.withCams("900000000000");
         Due.is("none yet", x.restore(), ShaftPlay.NONE);
         Due.is("image", x.image(), 1);
@@ -169,7 +154,7 @@ public final class BeatsAndHandsTest {
         Due.is("the newer one counts", x.line(3), 3);
     }
 
-    private static void imageOfFigures() {
+    static void promise26_imageOfFigures() {
         ShaftPlay x = Due.withCams("900000000000", "000000000009");
         x.figure(1, 1, 3, 2);
         Due.wish(x, 0, "u...........");
@@ -207,7 +192,7 @@ public final class BeatsAndHandsTest {
         Due.is("lag", x.set(0, 2, 0), 3);
     }
 
-    private static void imageLeavesTapeAndSheets() {
+    static void promise27_imageLeavesTapeAndSheets() {
         ShaftPlay x = new ShaftPlay();
         x.sheet(0, 1, 3);
         x.type('1', 1);

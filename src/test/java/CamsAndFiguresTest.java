@@ -2,30 +2,11 @@
 public final class CamsAndFiguresTest {
     private static final int[] OUTSIDE = {Integer.MIN_VALUE, -2, -1, 99, 1000, Integer.MAX_VALUE};
 
-    public static void main(String[] args) {
-        bareShaft();
-        typing();
-        badBytes();
-        fullTape();
-        camsByText();
-        camFaults();
-        camsFull();
-        cutting();
-        badCuts();
-        figures();
-        badFigures();
-        setting();
-        badSettings();
-        wishes();
-        wishFaults();
-        lines();
-        ways();
-        counts();
-        Due.end("CamsAndFiguresTest");
+    public static void main(String[] args) throws IllegalAccessException {
+        Cases.run(CamsAndFiguresTest.class);
     }
 
-    // Promise 1
-    private static void bareShaft() {
+    static void promise01_bareShaft() {
         ShaftPlay x = new ShaftPlay();
         for (int what = 0; what <= 5; what++) {
             Due.is("bare count(" + what + ")", x.count(what), 0);
@@ -46,8 +27,7 @@ public final class CamsAndFiguresTest {
         Due.is("objects have tapes of their own", other.type('1', 1), 1);
     }
 
-    // Promise 2
-    private static void typing() {
+    static void promise02_typing() {
         ShaftPlay x = new ShaftPlay();
         Due.is("one byte", x.type('1', 1), 1);
         Due.is("the lowest bytes alone", x.type(0x0102030405003132L, 2), 3);
@@ -59,7 +39,7 @@ public final class CamsAndFiguresTest {
         Due.is("least and greatest byte", x.type(32L << 8 | 126, 2), 4);
     }
 
-    private static void badBytes() {
+    static void promise02_badBytes() {
         ShaftPlay x = new ShaftPlay();
         for (int n : new int[] {Integer.MIN_VALUE, -1, 0, 9, Integer.MAX_VALUE}) {
             Due.is("type n " + n, x.type(Due.packed("11111111"), n), ShaftPlay.BAD);
@@ -74,7 +54,7 @@ public final class CamsAndFiguresTest {
         Due.is("a negative long", x.type(-1L, 8), ShaftPlay.BAD);
     }
 
-    private static void fullTape() {
+    static void promise02_fullTape() {
         ShaftPlay x = new ShaftPlay();
         for (int k = 1; k <= 4; k++) {
             Due.is("tape", x.type(Due.packed("1 1 1 1 "), 8), 8 * k);
@@ -88,8 +68,7 @@ public final class CamsAndFiguresTest {
         Due.is("empty then", x.type('1', 1), 1);
     }
 
-    // Promise 3
-    private static void camsByText() {
+    static void promise03_camsByText() {
         ShaftPlay x = new ShaftPlay();
         Due.is("cam", Due.cam(x, "012345678901"), 0);
         Due.hairsAre("cam 0", x, 0, "012345678901");
@@ -99,7 +78,7 @@ public final class CamsAndFiguresTest {
         Due.is("tape empty behind a cam", x.cam(), -20);
     }
 
-    private static void camFaults() {
+    static void promise03_camFaults() {
         ShaftPlay x = new ShaftPlay();
         Due.is("empty", x.cam(), -20);
         Due.is("blanks alone", Due.cam(x, "   "), -23);
@@ -116,7 +95,7 @@ public final class CamsAndFiguresTest {
         Due.is("no cam came", x.count(0), 0);
     }
 
-    private static void camsFull() {
+    static void promise03_camsFull() {
         ShaftPlay x = new ShaftPlay();
         for (int cam = 0; cam < 6; cam++) {
             Due.is("cam", Due.cam(x, "11111111111" + cam), cam);
@@ -128,8 +107,7 @@ public final class CamsAndFiguresTest {
         Due.hairsAre("the last one", x, 5, "111111111115");
     }
 
-    // Promises 4 and 5
-    private static void cutting() {
+    static void promise04_cutting() {
         ShaftPlay x = Due.withCams("012345678901", "000000000000");
         Due.is("cut", x.cut(0, 3, 9), 3);
         Due.is("cut again", x.cut(0, 3, 0), 9);
@@ -140,7 +118,7 @@ public final class CamsAndFiguresTest {
         Due.hairsAre("the other cam", x, 1, "000000000000");
     }
 
-    private static void badCuts() {
+    static void promise04_badCuts() {
         ShaftPlay x = Due.withCams("012345678901", "000000000000");
         for (int v : OUTSIDE) {
             Due.is("cut cam", x.cut(v, 0, 0), ShaftPlay.BAD);
@@ -157,8 +135,7 @@ public final class CamsAndFiguresTest {
         Due.hairsAre("not cut", x, 0, "012345678901");
     }
 
-    // Promise 6
-    private static void figures() {
+    static void promise06_figures() {
         ShaftPlay x = Due.withCams("012345678901", "900000000000");
         Due.is("figure", x.figure(0, 0, 0, 0), 0);
         Due.is("figure", x.figure(3, 1, 11, 3), 1);
@@ -172,7 +149,7 @@ public final class CamsAndFiguresTest {
         Due.is("five", x.count(1), 5);
     }
 
-    private static void badFigures() {
+    static void promise06_badFigures() {
         ShaftPlay x = new ShaftPlay();
         Due.is("no cam", x.figure(0, 0, 0, 0), ShaftPlay.BAD);
         Due.cam(x, "012345678901");
@@ -189,8 +166,7 @@ public final class CamsAndFiguresTest {
         Due.is("none came", x.count(1), 0);
     }
 
-    // Promise 7
-    private static void setting() {
+    static void promise07_setting() {
         ShaftPlay x = Due.withCams("012345678901", "900000000000");
         x.figure(0, 0, 0, 0);
         x.figure(1, 0, 1, 1);
@@ -208,7 +184,7 @@ public final class CamsAndFiguresTest {
         Due.is("the other's place", x.set(1, 3, 1), 1);
     }
 
-    private static void badSettings() {
+    static void promise07_badSettings() {
         ShaftPlay x = Due.withCams("012345678901");
         x.figure(2, 0, 5, 1);
         int[] above = {4, 1, 12, 4};
@@ -227,8 +203,7 @@ public final class CamsAndFiguresTest {
         Due.is("place stays", x.set(0, 3, 1), 1);
     }
 
-    // Promise 8
-    private static void wishes() {
+    static void promise08_wishes() {
         ShaftPlay x = Due.withCams("900000000000");
         x.figure(0, 0, 0, 0);
         Due.is("nothing at first", x.missed(0), ShaftPlay.NONE);
@@ -242,7 +217,7 @@ public final class CamsAndFiguresTest {
         Due.is("tape empty", x.type('u', 1), 1);
     }
 
-    private static void wishFaults() {
+    static void promise08_wishFaults() {
         ShaftPlay x = Due.withCams("900000000000");
         Due.type(x, "uuuu");
         Due.is("no figure", x.wish(0), ShaftPlay.BAD);
@@ -259,8 +234,7 @@ public final class CamsAndFiguresTest {
         Due.is("the wish stays", x.missed(0), 1);
     }
 
-    // Promise 9
-    private static void lines() {
+    static void promise09_lines() {
         ShaftPlay x = Due.withCams("012345678900");
         x.figure(0, 0, 0, 0);
         Due.is("from 5", x.ups(0), 0x3E0);
@@ -276,8 +250,7 @@ public final class CamsAndFiguresTest {
         Due.is("it stays", x.line(5), 1);
     }
 
-    // Promise 10
-    private static void ways() {
+    static void promise10_ways() {
         ShaftPlay x = new ShaftPlay();
         Due.is("backwards", x.way(1), 0);
         x.turn(1);
@@ -293,8 +266,7 @@ public final class CamsAndFiguresTest {
         Due.is("it stays", x.way(0), 0);
     }
 
-    // Promise 11
-    private static void counts() {
+    static void promise11_counts() {
         ShaftPlay x = Due.withCams("990000000000", "900000000000");
         x.figure(0, 0, 0, 0);
         x.figure(0, 1, 0, 0);

@@ -2,17 +2,35 @@
 final class Due {
     private static int passed = 0;
     private static int failed = 0;
+    private static String ofCase = "";
 
     private Due() {
+    }
+
+    /** What fails from now on is told by the name of this case. */
+    static void begin(String name) {
+        ofCase = name + ": ";
     }
 
     static void is(String what, long got, long want) {
         if (got == want) {
             passed++;
         } else {
-            failed++;
-            System.out.println(what + ": answered " + got + ", due is " + want);
+            fails(what + ": answered " + got + ", due is " + want);
         }
+    }
+
+    static void same(String what, String got, String want) {
+        if (got.equals(want)) {
+            passed++;
+        } else {
+            fails(what + ": is " + got + ", due is " + want);
+        }
+    }
+
+    static void fails(String what) {
+        failed++;
+        System.out.println(ofCase + what);
     }
 
     static void end(String name) {
@@ -67,7 +85,6 @@ final class Due {
     }
 
     static void hairsAre(String what, ShaftPlay x, int cam, String want) {
-        String got = hairs(x, cam);
-        is(what + " " + got + " is to be " + want, got.equals(want) ? 1 : 0, 1);
+        same(what, hairs(x, cam), want);
     }
 }

@@ -1,22 +1,7 @@
 /** Promises 12 to 20. */
 public final class PlayTest {
-    public static void main(String[] args) {
-        straightAndDoubled();
-        slow();
-        living();
-        upSets();
-        turning();
-        turningManyFigures();
-        striking();
-        wearing();
-        wearingAllAtOnce();
-        missing();
-        fewest();
-        sharing();
-        pegs();
-        pegsByLine();
-        noFigures();
-        Due.end("PlayTest");
+    public static void main(String[] args) throws IllegalAccessException {
+        Cases.run(PlayTest.class);
     }
 
     private static void heightsAre(String what, ShaftPlay x, int figure, int... want) {
@@ -25,8 +10,7 @@ public final class PlayTest {
         }
     }
 
-    // Promise 12
-    private static void straightAndDoubled() {
+    static void promise12_straightAndDoubled() {
         ShaftPlay x = Due.withCams("012345678912");
         x.figure(0, 0, 0, 0);
         x.figure(1, 0, 11, 0);
@@ -39,7 +23,7 @@ public final class PlayTest {
         Due.is("far", x.height(Integer.MAX_VALUE, Integer.MIN_VALUE), ShaftPlay.BAD);
     }
 
-    private static void slow() {
+    static void promise12_slow() {
         ShaftPlay x = Due.withCams("900000000000", "000000800000", "100000000009");
         x.figure(2, 0, 0, 0);
         x.figure(2, 1, 2, 0);
@@ -52,7 +36,7 @@ public final class PlayTest {
         heightsAre("slow backwards by a lag", x, 1, 4, 5, 6, 7, 8, 0, 0, 0, 0, 1, 2, 3);
     }
 
-    private static void living() {
+    static void promise12_living() {
         ShaftPlay x = Due.withCams("312210000000");
         x.figure(3, 0, 0, 0);
         heightsAre("living forwards", x, 0, 7, 2, 5, 4, 2, 0, 0, 0, 0, 0, 0, 0);
@@ -65,8 +49,7 @@ public final class PlayTest {
         heightsAre("living forwards over 11", x, 0, 6, 6, 4, 4, 2, 0, 0, 0, 0, 0, 0, 9);
     }
 
-    // Promise 13
-    private static void upSets() {
+    static void promise13_upSets() {
         ShaftPlay x = Due.withCams("900000000000", "333333333334", "540000000005");
         x.figure(2, 0, 0, 0);
         x.figure(1, 1, 0, 0);
@@ -87,8 +70,7 @@ public final class PlayTest {
         Due.is("figure -1", x.ups(-1), ShaftPlay.BAD);
     }
 
-    // Promise 14
-    private static void turning() {
+    static void promise14_turning() {
         ShaftPlay x = Due.withCams("999900000000", "009999000000");
         x.figure(0, 0, 0, 1);
         x.figure(0, 1, 0, 1);
@@ -110,7 +92,7 @@ public final class PlayTest {
         Due.is("not turned", x.count(2) * 1000 + x.count(4), 2638);
     }
 
-    private static void turningManyFigures() {
+    static void promise14_turningManyFigures() {
         ShaftPlay x = Due.withCams("900000000000");
         for (int k = 0; k < 5; k++) {
             x.figure(0, 0, 0, k < 3 ? 0 : 1);
@@ -131,8 +113,7 @@ public final class PlayTest {
         Due.is("strikes at 4 and at 0", x.turn(10), 2);
     }
 
-    // Promise 15
-    private static void striking() {
+    static void promise15_striking() {
         ShaftPlay x = Due.withCams("999900000000", "009999000000", "900000000009", "999999999999");
         x.figure(0, 0, 0, 1);
         x.figure(0, 1, 0, 1);
@@ -157,8 +138,7 @@ public final class PlayTest {
         Due.is("b -1", x.strikes(0, -1), ShaftPlay.BAD);
     }
 
-    // Promise 16
-    private static void wearing() {
+    static void promise16_wearing() {
         ShaftPlay x = Due.withCams("900000000000", "300000000000", "222222222225");
         Due.is("one turn", x.wear(1), 3);
         Due.hairsAre("9 less 1", x, 0, "800000000000");
@@ -177,7 +157,7 @@ public final class PlayTest {
         Due.hairsAre("the last cam", x, 5, "300000000000");
     }
 
-    private static void wearingAllAtOnce() {
+    static void promise16_wearingAllAtOnce() {
         ShaftPlay x = Due.withCams("530000000000", "600000000008");
         x.way(1);
         Due.is("all at once, by numbers", x.wear(1), 2);
@@ -188,8 +168,7 @@ public final class PlayTest {
         Due.hairsAre("3..6", x, 1, "300000000006");
     }
 
-    // Promise 17
-    private static void missing() {
+    static void promise17_missing() {
         ShaftPlay x = Due.withCams("900000000000");
         x.figure(2, 0, 11, 0);
         Due.wish(x, 0, "duuuuudddddd");
@@ -223,8 +202,7 @@ public final class PlayTest {
         return x;
     }
 
-    // Promise 18
-    private static void fewest() {
+    static void promise18_fewest() {
         Due.is("no figures", new ShaftPlay().fewest(), 0);
         Due.is("one figure", withWishes("uuuuuuuuuuuu").fewest(), 1);
         Due.is("like ones", withWishes("uddddddddddd", "dduddddddddd").fewest(), 1);
@@ -237,8 +215,7 @@ public final class PlayTest {
         Due.is("eight, eight", withWishes("uuuuuuuu....", "dddd........", "ddddd.......").fewest(), 2);
     }
 
-    // Promise 19
-    private static void sharing() {
+    static void promise19_sharing() {
         ShaftPlay x = withWishes("uuuuuuuuuuuu", "d...........", "............", "d...........", "u...........");
         sharesAre("the first row", x, 0, 0, 1, 0, 0, 0, 1, 0, 0, 0);
         Due.wish(x, 0, "u...........");
@@ -274,8 +251,7 @@ public final class PlayTest {
         Due.is(what + ": lag", x.pegs(0, 1), lag);
     }
 
-    // Promise 20
-    private static void pegs() {
+    static void promise20_pegs() {
         ShaftPlay x = Due.withCams("999000000000");
         x.figure(3, 0, 7, 0);
         pegsAre("nothing wished", x, 0, 0);
@@ -298,7 +274,7 @@ public final class PlayTest {
         Due.is("figure -1", x.pegs(-1, 0), ShaftPlay.BAD);
     }
 
-    private static void pegsByLine() {
+    static void promise20_pegsByLine() {
         ShaftPlay x = Due.withCams("000000000000", "444000000000");
         x.figure(1, 1, 0, 0);
         Due.wish(x, 0, "u...........");
@@ -311,7 +287,7 @@ public final class PlayTest {
         pegsAre("all twelve", x, 12, 0);
     }
 
-    private static void noFigures() {
+    static void terms_noFigures() {
         ShaftPlay x = Due.withCams("900000000000");
         Due.is("height", x.height(0, 0), ShaftPlay.BAD);
         Due.is("ups", x.ups(0), ShaftPlay.BAD);

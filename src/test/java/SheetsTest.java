@@ -1,23 +1,7 @@
 /** Promises 28 to 33. */
 public final class SheetsTest {
-    public static void main(String[] args) {
-        worn();
-        wornByKinds();
-        wornWithoutFigures();
-        wornItems();
-        wornRefused();
-        film();
-        filmRefused();
-        sheets();
-        drops();
-        items();
-        itemLanes();
-        itemsRefused();
-        copies();
-        copiesOverlapping();
-        copiesRefused();
-        orderOfAnswers();
-        Due.end("SheetsTest");
+    public static void main(String[] args) throws IllegalAccessException {
+        Cases.run(SheetsTest.class);
     }
 
     private static void tell(ShaftPlay x, int... sets) {
@@ -48,8 +32,7 @@ public final class SheetsTest {
         return x;
     }
 
-    // Promise 28
-    private static void worn() {
+    static void promise28_worn() {
         ShaftPlay x = Due.withCams("765000000000", "765000000000", "999999999999");
         x.figure(0, 0, 0, 0);
         x.figure(0, 1, 0, 0);
@@ -73,7 +56,7 @@ public final class SheetsTest {
         Due.is("0 at least", x.worn(6, 0, 1, 0), 1);
     }
 
-    private static void wornByKinds() {
+    static void promise28_wornByKinds() {
         ShaftPlay x = Due.withCams("900000000000", "310000000000");
         x.figure(2, 0, 0, 0);
         x.figure(3, 1, 1, 1);
@@ -90,7 +73,7 @@ public final class SheetsTest {
         Due.is("slow is up one longer", x.worn(1, 0, 1, 0), 1);
     }
 
-    private static void wornWithoutFigures() {
+    static void promise28_wornWithoutFigures() {
         ShaftPlay x = new ShaftPlay();
         x.sheet(0, 0, 0);
         Due.is("nothing to be told", x.worn(1, 0, 0, 0), 64);
@@ -104,7 +87,7 @@ public final class SheetsTest {
         Due.is("above", x.worn(9, 0, 0, 25), ShaftPlay.INDEX);
     }
 
-    private static void wornItems() {
+    static void promise28_wornItems() {
         ShaftPlay x = Due.withCams("900000000009");
         x.figure(0, 0, 0, 0);
         x.sheet(0, 2, 3);
@@ -122,7 +105,7 @@ public final class SheetsTest {
         Due.is("an other bit alone", x.worn(4, 0, 2, 2), 0);
     }
 
-    private static void wornRefused() {
+    static void promise28_wornRefused() {
         ShaftPlay x = Due.withCams("900000000000");
         x.figure(0, 0, 0, 0);
         x.figure(0, 0, 0, 0);
@@ -141,8 +124,7 @@ public final class SheetsTest {
         Due.is("lane -1", x.worn(1, 1, -1, 0), ShaftPlay.BAD);
     }
 
-    // Promise 29
-    private static void film() {
+    static void promise29_film() {
         for (int lane = 0; lane < 3; lane++) {
             ShaftPlay x = withOneFigure();
             Due.cam(x, "123434343400");
@@ -158,7 +140,7 @@ public final class SheetsTest {
         }
     }
 
-    private static void filmRefused() {
+    static void promise29_filmRefused() {
         ShaftPlay x = withOneFigure();
         x.sheet(0, 1, 13);
         Due.is("the last place", x.film(0, 0, 1, 1), 12);
@@ -175,8 +157,7 @@ public final class SheetsTest {
         Due.is("too short a row", x.film(0, 0, 1, 0), ShaftPlay.INDEX);
     }
 
-    // Promise 30
-    private static void sheets() {
+    static void promise30_sheets() {
         ShaftPlay x = withOneFigure();
         for (int s = 0; s < 4; s++) {
             Due.is("least", x.sheet(s, 0, 0), 0);
@@ -198,8 +179,7 @@ public final class SheetsTest {
         Due.is("of 6", x.drop(0), 6);
     }
 
-    // Promise 31
-    private static void drops() {
+    static void promise31_drops() {
         ShaftPlay x = new ShaftPlay();
         x.sheet(0, 0, 0);
         x.sheet(3, 1, 24);
@@ -213,8 +193,7 @@ public final class SheetsTest {
         }
     }
 
-    // Promise 32
-    private static void items() {
+    static void promise32_items() {
         ShaftPlay x = withOneFigure();
         for (int lane = 0; lane < 3; lane++) {
             x.sheet(lane, lane, 3);
@@ -225,7 +204,7 @@ public final class SheetsTest {
         }
     }
 
-    private static void itemLanes() {
+    static void promise32_itemLanes() {
         ShaftPlay x = withOneFigure();
         long[] above = {1L << 16, 1L << 32, 0};
         for (int lane = 0; lane < 3; lane++) {
@@ -245,7 +224,7 @@ public final class SheetsTest {
         Due.is("an int's bit 16", holds(x, 0, 1, 1, 7) ? 1 : 0, 0);
     }
 
-    private static void itemsRefused() {
+    static void promise32_itemsRefused() {
         ShaftPlay x = withOneFigure();
         x.sheet(0, 1, 24);
         x.sheet(1, 1, 0);
@@ -266,8 +245,7 @@ public final class SheetsTest {
         Due.is("the first is 0", holds(x, 0, 1, 0, 0) ? 1 : 0, 1);
     }
 
-    // Promise 33
-    private static void copies() {
+    static void promise33_copies() {
         ShaftPlay x = withOneFigure();
         tell(x, 1, 2, 3, 4);
         x.sheet(2, 1, 3);
@@ -287,7 +265,7 @@ public final class SheetsTest {
         Due.is("a whole long", holds(x, 3, 2, 0, 7) ? 1 : 0, 0);
     }
 
-    private static void copiesOverlapping() {
+    static void promise33_copiesOverlapping() {
         ShaftPlay x = withOneFigure();
         tell(x, 1, 2, 3, 4, 5);
         Due.is("up", x.copy(0, 0, 0, 1, 4), 4);
@@ -299,7 +277,7 @@ public final class SheetsTest {
         rowIs("onto itself", x, 0, 1, 2, 3, 4, 5, 5);
     }
 
-    private static void copiesRefused() {
+    static void promise33_copiesRefused() {
         ShaftPlay x = withOneFigure();
         tell(x, 1, 2, 3, 4);
         x.sheet(1, 1, 3);
@@ -327,7 +305,7 @@ public final class SheetsTest {
         rowIs("nothing went", x, 0, 1, 1, 2, 3, 4);
     }
 
-    private static void orderOfAnswers() {
+    static void terms_orderOfAnswers() {
         ShaftPlay x = withOneFigure();
         x.sheet(0, 1, 2);
         Due.is("worn: BAD first", x.worn(0, 1, 0, 9), ShaftPlay.BAD);
