@@ -203,10 +203,17 @@ public final class BeatsAndHandsBoundaryTest {
         for (int figure = 0; figure < 5; figure++) {
             Due.wish(x, figure, "u.d.u.d.u.d.");
         }
+        for (int cam = 0; cam < 6; cam++) {
+            x.cut(cam, 2 * cam, 3);
+        }
+        for (int what = 0; what < 4; what++) {
+            x.set(4, what, 1);
+        }
+        x.line(9);
         x.way(0);
         x.turn(2);
-        // What the view changes is what restore brings back, too.
-        View.ofPlay(x);
+        x.beats(0, 3);
+        x.hand(3, 7);
         Due.same("all is as it was", View.ofImage(x), "1 " + View.ofPlay(Plays.full()));
     }
 

@@ -2,8 +2,9 @@ import java.util.Random;
 
 /** Long runs of all calls, ordinary, at the edges and wrong, against a second opinion (with a fixed seed). */
 public final class OracleTest {
-    private static final int RUNS = 400;
-    private static final int CALLS = 512;
+    private static final int RUNS = 500;
+    /** All that are promised, less the most that one step makes. */
+    private static final int CALLS = 512 - 12;
     private static final String[] CALL_NAMES = {"type", "cam", "cut", "told", "figure", "set", "wish", "line", "way",
         "count", "height", "ups", "turn", "strikes", "wear", "missed", "fewest", "share", "pegs", "beats", "when",
         "at", "hand", "whose", "image", "restore", "worn", "film", "sheet", "drop", "item", "copy"};
@@ -14,6 +15,7 @@ public final class OracleTest {
     private final ShaftPlay x = new ShaftPlay();
     private final Oracle o = new Oracle();
     private String said = "";
+    private int calls = 0;
 
     private OracleTest(int seed) {
         random = new Random(seed);
@@ -27,10 +29,9 @@ public final class OracleTest {
     }
 
     private void run(int run) {
-        int calls = 0;
         int rarely = run % 4 == 0 ? 8 : 60;
         for (; calls < CALLS; calls++) {
-            int call = pick(calls);
+            int call = pick();
             if (call == 16 || call == 17) {
                 // The oracle looks at every row there is.
                 call = random.nextInt(rarely) == 0 ? call : random.nextInt(16);
@@ -40,7 +41,7 @@ public final class OracleTest {
         }
     }
 
-    private int pick(int calls) {
+    private int pick() {
         int ahead = random.nextInt(100);
         if (ahead < 12 || calls < 20 && ahead < 60) {
             return random.nextInt(4) == 0 ? 4 : typed();
@@ -67,6 +68,7 @@ public final class OracleTest {
         for (int k = 0; k < text.length(); k += 8) {
             String part = text.substring(k, Math.min(k + 8, text.length()));
             o.type(Due.packed(part), part.length());
+            calls++;
         }
         return isWish ? 6 : 1;
     }
@@ -193,6 +195,7 @@ public final class OracleTest {
                 for (int k = 0; k < o.s.figures.size(); k++) {
                     Due.is("share cam of " + k, x.share(k, 0), row[1 + 2 * k]);
                     Due.is("share lag of " + k, x.share(k, 1), row[2 + 2 * k]);
+                    calls += 2;
                 }
                 return of(x.share(0, 2), -1);
             default:
@@ -277,6 +280,7 @@ public final class OracleTest {
         for (int f = 0; f < guess.s.figures.size() && i >= 0 && i < 24; f++) {
             int ups = guess.ups(f);
             Due.is("item", x.item(sheet, lane, i + f, ups), o.item(sheet, lane, i + f, ups));
+            calls++;
         }
     }
 }
