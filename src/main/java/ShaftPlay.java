@@ -736,11 +736,11 @@ public final class ShaftPlay {
         }
 
         int someAhead(int a, int n) {
-            return angleOf(backwards == 0 ? a - n : a + n);
+            return Math.floorMod(backwards == 0 ? a - n : a + n, ANGLES);
         }
 
         static int hairOf(int[] hairs, Figure f, int a) {
-            return hairs[angleOf(a + f.lag)];
+            return hairs[Math.floorMod(a + f.lag, ANGLES)];
         }
 
         int heightOn(int[] hairs, Figure f, int a) {
@@ -794,7 +794,7 @@ public final class ShaftPlay {
             if (a.place != b.place) {
                 return 0;
             }
-            int both = upsOf(a) & upsOf(b);
+            int both = upsOn(hairs[a.cam], a) & upsOn(hairs[b.cam], b);
             int bothAhead = movedOn(both, backwards == 0 ? 1 : -1);
             return both & ~bothAhead;
         }
